@@ -9,6 +9,7 @@ public final class HalfAndHalfAgain {
     private static final int CELLS = 64;
     private static final int TURNS = 8;
     private static final int KINDS = 4;
+    private static final long SIGN_BIT = 1L << 63;
 
     private final Text text;
     private final Store now;
@@ -414,7 +415,7 @@ public final class HalfAndHalfAgain {
 
     // As a signed comparison would put CELL 63 below all others.
     private static boolean isLess(long one, long other) {
-        return one + Long.MIN_VALUE < other + Long.MIN_VALUE;
+        return (one ^ SIGN_BIT) < (other ^ SIGN_BIT);
     }
 
     /** THE TEXT, and how it is read as a WORD. */
