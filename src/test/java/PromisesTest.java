@@ -626,6 +626,7 @@ public final class PromisesTest {
         due("none of the empty one", x.part(1, 7, 0), STATE);
         due("refused: as it was", x.figure(1), 0xFL << 40);
         due("the other stays", x.size(0), 10);
+        due("of cell 0 alone", drawn("1").part(1, 0, 0), 1);
         due("of itself", x.part(0, 0, 2), 4);
         due("cells", x.figure(0), 0xFL << 32);
         for (int f : NO_FIGURES) {
@@ -866,6 +867,7 @@ public final class PromisesTest {
         due("as it was", x.figure(0), 0xFL << 20);
         due("the empty one", x.grow(7, 0), NONE);
         draw(x, 1, "0000 0000 0000 0004");
+        due("cell 0 alone is left", drawn("efff ffff ffff ffff").grow(0, 0), 0);
         due("the last cell", x.grow(1, 1), 63);
         due("cells", x.figure(1), 3L << 62);
         for (int f : NO_FIGURES) due("grow", x.grow(f, 0), UNKNOWN);
