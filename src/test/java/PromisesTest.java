@@ -757,6 +757,7 @@ public final class PromisesTest {
         for (int f : NO_FIGURES) due("ways", x.ways(f), UNKNOWN);
         due("the figure stays", x.figure(6), 0xFFF);
         leave();
+        nothingLeftOver();
     }
 
     private static void leave() {
@@ -767,6 +768,14 @@ public final class PromisesTest {
         x.lift();
         x.lay(0, true);
         due("mirrored with leave", x.ways(1), 1);
+    }
+
+    private static void nothingLeftOver() {
+        HalfAndHalfAgain x = drawn("1", "f", "2");
+        x.lay(0, false);
+        due("four places", x.places(0, 1), 4);
+        due("none of the places that another call found", x.ways(2), 1);
+        due("nor for the first", x.first(2, 0), 2);
     }
 
     private static void first() {
