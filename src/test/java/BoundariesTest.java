@@ -1,41 +1,9 @@
-import java.util.ArrayList;
-import java.util.List;
-
 /**
  * The boundary cases that the document's words name, promise by promise: what is refused, which refusal comes first,
  * that it changes nothing, the least and the greatest number taken and the first ones beyond, nothing and all.
  */
-public final class BoundariesTest {
-    private static final int UNKNOWN = -1, OUTSIDE = -2, STATE = -3, FULL = -4, NONE = -9;
-    private static final int LOW = Integer.MIN_VALUE, HIGH = Integer.MAX_VALUE;
-    private static final long SIGN = Long.MIN_VALUE;
-    private static final String ALL = "ffff ffff ffff ffff";
-    private static final String LAST_CELL = "0000 0000 0000 0008";
-    /** Upper and lower, right and left by turns: no two cells are neighbours, and each other cell is one of theirs. */
-    private static final String LOOSE = "a5a5 5a5a a5a5 5a5a";
-    /** An l of four squares, which is not its mirror. */
-    private static final String ELL = "f000 f000 ff00", MIRRORED_ELL = "0f00 0f00 ff00";
-    private static final String[] STATES = {"new", "busy", "crowded", "faulty"};
-    private static final int NEW = 0, BUSY = 1, CROWDED = 2, FAULTY = 3;
-
-    private static final String[] untouched = new String[STATES.length];
-    private static int wrong = 0;
-    private static int promise = 0;
-
-    private interface Call {
-        long on(HalfAndHalfAgain x);
-    }
-
-    private interface Numbered {
-        long on(HalfAndHalfAgain x, int n);
-    }
-
-    private interface Maker {
-        HalfAndHalfAgain make();
-    }
-
+public final class BoundariesTest extends States {
     public static void main(String[] args) {
-        for (int state = 0; state < STATES.length; state++) untouched[state] = tell(make(state));
         newObject();
         write();
         wipe();
@@ -75,187 +43,17 @@ public final class BoundariesTest {
         keep();
         again();
         count();
-        System.out.println(wrong == 0 ? "all boundaries hold" : wrong + " boundaries do not hold");
-        if (wrong != 0) System.exit(1);
-    }
-
-    // ---- what a check is made of
-
-    private static void due(String what, long got, long want) {
-        if (got != want) fail(what + " answered " + got + ", due is " + want);
-    }
-
-    private static void fail(String what) {
-        wrong++;
-        if (wrong <= 200) System.out.println("promise " + promise + ": " + what);
-    }
-
-    private static void put(HalfAndHalfAgain x, String bytes) {
-        for (int i = 0; i < bytes.length(); i++) x.write(1, bytes.charAt(i));
-    }
-
-    /** A figure from a word, whose blanks are left out and whose end is filled with 0; the text is empty then. */
-    private static HalfAndHalfAgain draw(HalfAndHalfAgain x, int figure, String word) {
-        StringBuilder signs = new StringBuilder(word.replace(" ", ""));
-        while (signs.length() < 16) signs.append('0');
-        x.wipe();
-        put(x, signs.toString());
-        if (x.word(figure) < 0) fail("no word: " + word);
-        x.wipe();
-        return x;
-    }
-
-    private static HalfAndHalfAgain drawn(String... words) {
-        HalfAndHalfAgain x = new HalfAndHalfAgain();
-        for (int i = 0; i < words.length; i++) draw(x, i, words[i]);
-        return x;
-    }
-
-    private static HalfAndHalfAgain written(String bytes) {
-        HalfAndHalfAgain x = new HalfAndHalfAgain();
-        put(x, bytes);
-        return x;
-    }
-
-    private static String repeated(char sign, int times) {
-        return String.valueOf(sign).repeat(times);
-    }
-
-    private static long bits(int... cells) {
-        long figure = 0;
-        for (int cell : cells) figure |= 1L << cell;
-        return figure;
-    }
-
-    private static HalfAndHalfAgain make(int state) {
-        if (state == BUSY) return busy();
-        if (state == CROWDED) return crowded();
-        if (state == FAULTY) return faulty();
-        return new HalfAndHalfAgain();
-    }
-
-    /** A text that is a word, figures of many kinds, two pieces and one slot. */
-    private static HalfAndHalfAgain busy() {
-        HalfAndHalfAgain x = drawn("0000 0100", ELL);
-        x.lay(1, true);
-        x.keep(1);
-        x.lift();
-        x.lay(0, true);
-        x.lay(1, false);
-        draw(x, 0, MIRRORED_ELL);
-        draw(x, 3, ALL);
-        draw(x, 4, LAST_CELL);
-        draw(x, 5, LOOSE);
-        draw(x, 7, "0370 0000 0010");
-        put(x, "0123456789abcdef");
-        return x;
-    }
-
-    /** No figure is empty, there are four pieces, both slots have been used, the text is short. */
-    private static HalfAndHalfAgain crowded() {
-        HalfAndHalfAgain x = drawn(ELL, MIRRORED_ELL, "1", LAST_CELL, "0280", "f", "6c00 3900", ALL);
-        x.keep(0);
-        x.lay(2, false);
-        x.lay(0, true);
-        x.lay(0, false);
-        x.lay(1, false);
-        x.keep(1);
-        x.set(4, 33, true);
-        put(x, "00f00");
-        return x;
-    }
-
-    private static HalfAndHalfAgain faulty() {
-        HalfAndHalfAgain x = drawn("3", "c000 0000 0000 000c");
-        x.lay(0, false);
-        put(x, "0123g");
-        return x;
-    }
-
-    /** All that can be learnt of an object: figures, pieces, their leave, the text, and the same of each slot. */
-    private static String tell(HalfAndHalfAgain x) {
-        StringBuilder told = new StringBuilder();
-        tellKept(x, told);
-        told.append("text ").append(x.count(0)).append(' ').append(x.fault());
-        while (x.fault() == x.count(0) && x.count(0) < 16) x.write(1, '0');
-        told.append(' ').append(x.word(0)).append(' ').append(x.figure(0)).append('\n');
-        for (int slot = 0; slot < 2; slot++) {
-            told.append("slot ").append(x.again(slot)).append('\n');
-            tellKept(x, told);
-        }
-        return told.toString();
-    }
-
-    private static void tellKept(HalfAndHalfAgain x, StringBuilder told) {
-        for (int f = 0; f < 8; f++) told.append(x.figure(f)).append(' ');
-        for (int what = 1; what < 4; what++) told.append(x.count(what)).append(' ');
-        for (int p = 0; p < 4; p++) {
-            told.append(x.piece(p)).append(' ');
-            for (int f = 0; f < 8; f++) told.append(x.places(p, f)).append(' ');
-        }
-        told.append('\n');
-    }
-
-    private static void same(String what, String got, String want) {
-        if (!got.equals(want)) fail(what + " changed what is told from\n" + want + "to\n" + got);
-    }
-
-    /** The call answers so, and all is as if it had not been made. */
-    private static void still(String what, Maker maker, long want, Call call) {
-        HalfAndHalfAgain x = maker.make();
-        due(what, call.on(x), want);
-        same(what, tell(x), tell(maker.make()));
-    }
-
-    /** The call is refused so in each of the states, and all is as if it had not been made. */
-    private static void refused(String what, long want, Call call) {
-        for (int state = 0; state < STATES.length; state++) {
-            HalfAndHalfAgain x = make(state);
-            due(what + ", " + STATES[state], call.on(x), want);
-            same(what + ", " + STATES[state], tell(x), untouched[state]);
-        }
-    }
-
-    /** The call only asks: it answers twice the same, and changes nothing. */
-    private static void asks(String what, Call call) {
-        for (int state = 0; state < STATES.length; state++) {
-            HalfAndHalfAgain x = make(state);
-            long answer = call.on(x);
-            due(what + " a second time, " + STATES[state], call.on(x), answer);
-            same(what + ", " + STATES[state], tell(x), untouched[state]);
-        }
-    }
-
-    private static List<Integer> beyond(int least, int greatest) {
-        List<Integer> numbers = new ArrayList<>(List.of(least - 1, greatest + 1, LOW, LOW + 1, HIGH - 1, HIGH));
-        for (int far : new int[] {2, 4, 8, 16, 64, 256, 65536}) {
-            numbers.add(least - far);
-            numbers.add(greatest + far);
-        }
-        return numbers;
-    }
-
-    /** The numbers from the least to the greatest are not refused so, all others are. */
-    private static void taken(String what, int least, int greatest, int refusal, Numbered call) {
-        for (int n = least; n <= greatest; n++) {
-            for (int state = 0; state < STATES.length; state++) {
-                if (call.on(make(state), n) == refusal) fail(what + ": " + n + " is refused, " + STATES[state]);
-            }
-        }
-        for (int n : beyond(least, greatest)) refused(what + ": " + n, refusal, x -> call.on(x, n));
-    }
-
-    private static void figures(String what, Numbered call) {
-        taken(what, 0, 7, UNKNOWN, call);
-    }
-
-    /** Calls that answer 0 if there is no such figure: they change nothing either. */
-    private static void noFigures(String what, Numbered call) {
-        for (int n : beyond(0, 7)) refused(what + ": " + n, 0, x -> call.on(x, n));
+        end("all boundaries hold");
     }
 
     private static void pieces(HalfAndHalfAgain x, int figure, int times) {
         for (int i = 0; i < times; i++) x.lay(figure, false);
+    }
+
+    /** Whether the side of a cell is one of the board's. */
+    private static boolean atRim(int cell) {
+        int row = cell / 16, column = cell / 4 % 4, k = cell % 4;
+        return k == 0 && row == 0 || k == 1 && column == 3 || k == 2 && row == 3 || k == 3 && column == 0;
     }
 
     // ---- a new object
@@ -277,7 +75,7 @@ public final class BoundariesTest {
         due("the text is empty", x.fault(), 0);
         due("slot 0", x.again(0), STATE);
         due("slot 1", x.again(1), STATE);
-        same("a second object", tell(new HalfAndHalfAgain()), untouched[NEW]);
+        same("a second object", tell(new HalfAndHalfAgain()), untouched(NEW));
         theLastCall();
     }
 
@@ -297,7 +95,9 @@ public final class BoundariesTest {
         for (int length = 0; length <= 16; length++) {
             for (int n = 1; n <= 8; n++) writeBehind(length, n);
             String bytes = repeated('7', length);
-            for (int n : beyond(1, 8)) still(n + " behind " + length, () -> written(bytes), OUTSIDE, x -> x.write(n, '0'));
+            for (int n : beyond(1, 8)) {
+                still(n + " behind " + length, () -> written(bytes), OUTSIDE, x -> x.write(n, '0'));
+            }
         }
         for (int n = 1; n <= 8; n++) whichBytes(n);
         everyByte();
@@ -351,12 +151,12 @@ public final class BoundariesTest {
             due("it is empty", x.count(0), 0);
             due("it was empty", x.wipe(), 0);
             due("its fault", x.fault(), 0);
-            same("wiped of " + length, tell(x), untouched[NEW]);
+            same("wiped of " + length, tell(x), untouched(NEW));
         }
         HalfAndHalfAgain x = busy();
         due("a word", x.wipe(), 16);
         put(x, "0123456789abcdef");
-        same("a word that is written anew", tell(x), untouched[BUSY]);
+        same("a word that is written anew", tell(x), untouched(BUSY));
         due("a text with a fault", faulty().wipe(), 5);
         HalfAndHalfAgain y = written(repeated('0', 16));
         y.wipe();
@@ -372,7 +172,9 @@ public final class BoundariesTest {
             due("only not at its end", written(repeated('0', length)).fault(), length);
             due("only not at its end", written(repeated('f', length)).fault(), length);
         }
-        for (char sign : "0123456789abcdef".toCharArray()) due("all " + sign, written(repeated(sign, 16)).fault(), NONE);
+        for (char sign : "0123456789abcdef".toCharArray()) {
+            due("all " + sign, written(repeated(sign, 16)).fault(), NONE);
+        }
         for (int length = 1; length <= 16; length++) {
             for (int at = 0; at < length; at++) oneFault(length, at);
         }
@@ -383,7 +185,8 @@ public final class BoundariesTest {
 
     private static void oneFault(int length, int at) {
         // Those just beside the signs, the great letters, and what is left of 0 to 9 in other bytes.
-        for (int b : new int[] {0, '0' - 1, '9' + 1, 'A', 'F', 'a' - 1, 'f' + 1, ' ', '0' + 128, 'a' + 128, 127, 128, 255}) {
+        int[] bytes = {0, '0' - 1, '9' + 1, 'A', 'F', 'a' - 1, 'f' + 1, ' ', '0' + 128, 'a' + 128, 127, 128, 255};
+        for (int b : bytes) {
             HalfAndHalfAgain x = written(repeated('9', at));
             x.write(1, b);
             put(x, repeated('a', length - at - 1));
@@ -436,7 +239,7 @@ public final class BoundariesTest {
         figures("figure", (x, n) -> x.sign(n, 0));
         taken("i", 0, 15, OUTSIDE, (x, n) -> x.sign(0, n));
         taken("i", 0, 15, OUTSIDE, (x, n) -> x.sign(7, n));
-        for (int i : beyond(0, 15)) for (int f : beyond(0, 7)) due("unknown before outside", make(NEW).sign(f, i), UNKNOWN);
+        for (int i : beyond(0, 15)) refused("unknown before outside", UNKNOWN, x -> x.sign(8, i));
         HalfAndHalfAgain x = drawn("0123 4567 89ab cdef", ALL, LAST_CELL);
         for (int i = 0; i < 16; i++) {
             due("sign " + i, x.sign(0, i), "0123456789abcdef".charAt(i));
@@ -538,15 +341,10 @@ public final class BoundariesTest {
         due("the full one", drawn(ALL).holes(0), 0);
         // 32 cells alone are not of it, 8 of them at the rim.
         due("the most", drawn(LOOSE).holes(0), 24);
-        for (int row = 0; row < 4; row++) {
-            for (int column = 0; column < 4; column++) {
-                for (int k = 0; k < 4; k++) {
-                    boolean rim = k == 0 && row == 0 || k == 1 && column == 3 || k == 2 && row == 3 || k == 3 && column == 0;
-                    HalfAndHalfAgain x = drawn(ALL);
-                    x.set(0, 16 * row + 4 * column + k, false);
-                    due("all but " + k + " of " + row + ", " + column, x.holes(0), rim ? 0 : 1);
-                }
-            }
+        for (int cell = 0; cell < 64; cell++) {
+            HalfAndHalfAgain x = drawn(ALL);
+            x.set(0, cell, false);
+            due("all but cell " + cell, x.holes(0), atRim(cell) ? 0 : 1);
         }
         due("a hole as great as can be", drawn("6eec 7ffd 7ffd 3bb9").holes(0), 0);
         due("a hole as great as can be", drawn("9113 8002 8002 c446").holes(0), 1);
@@ -570,10 +368,9 @@ public final class BoundariesTest {
             HalfAndHalfAgain x = drawn("0", ALL);
             x.set(0, cell, true);
             x.set(1, cell, false);
-            boolean rim = cell < 16 && cell % 4 == 0 || cell >= 48 && cell % 4 == 2 || cell % 16 == 3 || cell % 16 == 13;
             due("straight of cell " + cell, x.edges(0, false), 1);
             due("slanting of cell " + cell, x.edges(0, true), 2);
-            due("straight of all but cell " + cell, x.edges(1, false), rim ? 15 : 17);
+            due("straight of all but cell " + cell, x.edges(1, false), atRim(cell) ? 15 : 17);
             due("slanting of all but cell " + cell, x.edges(1, true), 2);
         }
         edgesAre("over the rim to the next row", "0002 8000", 2, 4);
@@ -1228,7 +1025,7 @@ public final class BoundariesTest {
         waysAre("four rows", ALL, 48, new String[] {"ffff", "ffff", "ffff", "ffff"});
         waysAre("four columns", ALL, 48, new String[] {"f000 f000 f000 f000", "ffff", "ffff", "ffff"});
         waysAre("four great squares", ALL, 24, new String[] {"ff00 ff00", "ff00 ff00", "ff00 ff00", "ff00 ff00"});
-        waysAre("three of them, one too small", ALL, 0, new String[] {"ff00 ff00", "ff00 ff00", "ff00 ff00", "ff00 7f00"});
+        waysAre("one too small", ALL, 0, new String[] {"ff00 ff00", "ff00 ff00", "ff00 ff00", "ff00 7f00"});
         waysAre("three cells are one too few", "0000 0000 0000 000f", 0, new String[] {"1", "1", "1"});
         waysAre("four cells are one too many", "0000 0000 0000 000e", 0, new String[] {"1", "1", "1", "1"});
         waysAre("as many cells, otherwise", "f", 0, new String[] {"6c"});
@@ -1331,11 +1128,10 @@ public final class BoundariesTest {
         due("the most", drawn(LOOSE).grown(0), 32);
         due("cell 63", drawn(LAST_CELL).grown(0), 3);
         for (int cell = 0; cell < 64; cell++) {
-            boolean rim = cell < 16 && cell % 4 == 0 || cell >= 48 && cell % 4 == 2 || cell % 16 == 3 || cell % 16 == 13;
             HalfAndHalfAgain x = drawn("0", ALL);
             x.set(0, cell, true);
             x.set(1, cell, false);
-            due("cell " + cell, x.grown(0), rim ? 2 : 3);
+            due("cell " + cell, x.grown(0), atRim(cell) ? 2 : 3);
             due("all but cell " + cell, x.grown(1), 1);
         }
         due("what is no neighbour", drawn("ffff ffff ffff 0000").grown(0), 4);
@@ -1353,7 +1149,8 @@ public final class BoundariesTest {
         due("all but cell 0", drawn("efff ffff ffff ffff").forms(0), 1);
         // 32 cells, four of which are always like by the turns of the figure.
         due("the most cells", drawn(LOOSE).forms(0), 8);
-        due("a figure without turns: each its own", drawn("ffff ffff ffff ff00").forms(0), drawn("ffff ffff ffff ff00").grown(0));
+        due("a figure that is its mirror: at each of two sides", drawn("ffff ffff ffff").forms(0), 2);
+        due("a figure that is not: at each of its three ends", drawn("ffff ffff ffff ff00").forms(0), 3);
         due("one form alone", drawn("0000 0ff0 0ff0 0000").forms(0), 1);
     }
 
@@ -1405,7 +1202,8 @@ public final class BoundariesTest {
             due("no other figure", x.count(2), 1);
         }
         for (int i : beyond(0, 31)) {
-            still("none such of 32: " + i, () -> draw(new HalfAndHalfAgain(), figure, LOOSE), NONE, x -> x.grow(figure, i));
+            Maker maker = () -> draw(new HalfAndHalfAgain(), figure, LOOSE);
+            still("none such of 32: " + i, maker, NONE, x -> x.grow(figure, i));
         }
     }
 

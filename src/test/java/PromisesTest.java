@@ -1,9 +1,6 @@
 /** One check or more for each promise of the document, with answers worked out by hand. */
-public final class PromisesTest {
-    private static final int UNKNOWN = -1, OUTSIDE = -2, STATE = -3, FULL = -4, NONE = -9;
+public final class PromisesTest extends Checks {
     private static final int[] NO_FIGURES = {-1, 8, Integer.MIN_VALUE, Integer.MAX_VALUE};
-    private static int wrong = 0;
-    private static int promise = 0;
 
     public static void main(String[] args) {
         constants();
@@ -46,43 +43,7 @@ public final class PromisesTest {
         keep();
         again();
         count();
-        System.out.println(wrong == 0 ? "all promises are kept" : wrong + " answers are wrong");
-        if (wrong != 0) System.exit(1);
-    }
-
-    private static void due(String what, long got, long want) {
-        if (got != want) {
-            wrong++;
-            System.out.println("promise " + promise + ": " + what + " answered " + got + ", due is " + want);
-        }
-    }
-
-    private static int put(HalfAndHalfAgain x, String bytes) {
-        int last = 0;
-        for (int i = 0; i < bytes.length(); i++) last = x.write(1, bytes.charAt(i));
-        return last;
-    }
-
-    /** A figure from a word; blanks between the rows are left out, signs that fail at the end are 0. */
-    private static void draw(HalfAndHalfAgain x, int figure, String word) {
-        StringBuilder signs = new StringBuilder(word.replace(" ", ""));
-        while (signs.length() < 16) signs.append('0');
-        x.wipe();
-        put(x, signs.toString());
-        due("word of " + word, x.word(figure), Long.bitCount(x.figure(figure)));
-        x.wipe();
-    }
-
-    private static HalfAndHalfAgain drawn(String... words) {
-        HalfAndHalfAgain x = new HalfAndHalfAgain();
-        for (int i = 0; i < words.length; i++) draw(x, i, words[i]);
-        return x;
-    }
-
-    private static long bits(int... cells) {
-        long figure = 0;
-        for (int cell : cells) figure |= 1L << cell;
-        return figure;
+        end("all promises are kept");
     }
 
     private static void constants() {
@@ -159,7 +120,7 @@ public final class PromisesTest {
         due("none", x.fault(), NONE);
         for (int wrongByte : new int[] {'0' - 1, '9' + 1, 'a' - 1, 'f' + 1, 'A', 'F', ' ', 0, 128 + '0', 255}) {
             for (int at = 0; at < 16; at++) {
-                x.wipe();
+                x = new HalfAndHalfAgain();
                 for (int i = 0; i < at; i++) x.write(1, '7');
                 x.write(1, wrongByte);
                 due("byte " + wrongByte + " at " + at, x.fault(), at);
