@@ -196,6 +196,8 @@ public final class BoundariesTest extends States {
 
     private static void word() {
         promise = 5;
+        changesAlone("word", BUSY, x -> x.word(0), 0);
+        changesAlone("word", BUSY, x -> x.word(7), 7);
         for (int n : beyond(0, 7)) refused("figure: " + n, UNKNOWN, x -> x.word(n));
         for (int f = 0; f < 8; f++) {
             HalfAndHalfAgain x = written("8000000000000001");
@@ -265,6 +267,8 @@ public final class BoundariesTest extends States {
 
     private static void set() {
         promise = 8;
+        changesAlone("on", CROWDED, x -> x.set(0, 63, true), 0);
+        changesAlone("off", CROWDED, x -> x.set(7, 63, false), 7);
         figures("figure, on", (x, n) -> x.set(n, 63, true));
         figures("figure, off", (x, n) -> x.set(n, 0, false));
         taken("cell, on", 0, 63, UNKNOWN, (x, n) -> x.set(2, n, true));
@@ -482,6 +486,8 @@ public final class BoundariesTest extends States {
 
     private static void turn() {
         promise = 15;
+        changesAlone("turn", CROWDED, x -> x.turn(0, 7), 0);
+        changesAlone("turn", BUSY, x -> x.turn(7, 1), 7);
         figures("figure", (x, n) -> x.turn(n, 1));
         taken("t", 0, 7, OUTSIDE, (x, n) -> x.turn(0, n));
         taken("t", 0, 7, OUTSIDE, (x, n) -> x.turn(7, n));
@@ -532,6 +538,8 @@ public final class BoundariesTest extends States {
 
     private static void shift() {
         promise = 16;
+        changesAlone("shift", CROWDED, x -> x.shift(0, 2, 1), 0);
+        changesAlone("shift", BUSY, x -> x.shift(7, 0, 1), 7);
         figures("figure", (x, n) -> x.shift(n, 0, 0));
         taken("x", -3, 3, OUTSIDE, (x, n) -> x.shift(0, n, 0));
         taken("y", -3, 3, OUTSIDE, (x, n) -> x.shift(0, 0, n));
@@ -631,6 +639,8 @@ public final class BoundariesTest extends States {
 
     private static void both() {
         promise = 20;
+        changesAlone("both", CROWDED, x -> x.both(0, 3, 0, 7), 0);
+        changesAlone("both", CROWDED, x -> x.both(7, 1, 0, 1), 7);
         figures("figure", (x, n) -> x.both(n, 0, 0, 1));
         figures("one", (x, n) -> x.both(0, 0, n, 1));
         figures("other", (x, n) -> x.both(0, 0, 1, n));
@@ -760,6 +770,8 @@ public final class BoundariesTest extends States {
 
     private static void split() {
         promise = 24;
+        changesAlone("split", CROWDED, x -> x.split(0, 0, 2, 7), 0, 7);
+        changesAlone("split", CROWDED, x -> x.split(7, 3, 4, 0), 0, 7);
         lines((x, figure, kind, at) -> x.split(figure, kind, at, 1));
         figures("other", (x, n) -> x.split(n == 2 ? 3 : 2, 0, 2, n));
         for (int n : beyond(0, 7)) {
@@ -798,6 +810,8 @@ public final class BoundariesTest extends States {
 
     private static void part() {
         promise = 25;
+        changesAlone("part", BUSY, x -> x.part(7, 5, 31), 7);
+        changesAlone("part", BUSY, x -> x.part(0, 7, 0), 0);
         for (int n : beyond(0, 7)) {
             refused("figure: " + n, UNKNOWN, x -> x.part(n, 0, 0));
             refused("other: " + n, UNKNOWN, x -> x.part(0, n, 0));
@@ -900,6 +914,12 @@ public final class BoundariesTest extends States {
         promise = 27;
         still("there is none", () -> new HalfAndHalfAgain(), STATE, x -> x.lift());
         still("there is none, beside figures", () -> drawn(ALL, ELL), STATE, x -> x.lift());
+        HalfAndHalfAgain y = busy();
+        y.lay(3, true);
+        y.lay(4, false);
+        due("one is gone", y.lift(), 3);
+        due("both are gone", y.lift(), 2);
+        same("laid and lifted", tell(y), untouched(BUSY));
         HalfAndHalfAgain x = crowded();
         for (int left = 3; left >= 0; left--) {
             due("how many are left", x.lift(), left);
@@ -1156,6 +1176,8 @@ public final class BoundariesTest extends States {
 
     private static void grow() {
         promise = 36;
+        changesAlone("grow", CROWDED, x -> x.grow(0, 0), 0);
+        changesAlone("grow", BUSY, x -> x.grow(7, 0), 7);
         for (int n : beyond(0, 7)) {
             refused("figure: " + n, UNKNOWN, x -> x.grow(n, 0));
             for (int i : new int[] {-1, 64, LOW, HIGH}) refused("unknown before none", UNKNOWN, x -> x.grow(n, i));

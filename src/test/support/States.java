@@ -136,6 +136,19 @@ abstract class States extends Checks {
         }
     }
 
+    /** The call changes these figures at the most: with them as they were, all is as it was. */
+    static void changesAlone(String what, int state, Call call, int... figures) {
+        HalfAndHalfAgain x = make(state), y = make(state);
+        if (call.on(x) < 0) fail(what + " is refused, " + STATES[state]);
+        for (int figure : figures) {
+            long differ = x.figure(figure) ^ y.figure(figure);
+            for (int cell = 0; cell < 64; cell++) {
+                if ((differ >>> cell & 1) == 1) x.set(figure, cell, (y.figure(figure) >>> cell & 1) == 1);
+            }
+        }
+        same(what + ", " + STATES[state], tell(x), untouched(state));
+    }
+
     static List<Integer> beyond(int least, int greatest) {
         List<Integer> numbers = new ArrayList<>(List.of(least - 1, greatest + 1, LOW, LOW + 1, HIGH - 1, HIGH));
         for (int far : new int[] {2, 4, 8, 16, 64, 256, 65536}) {
