@@ -368,11 +368,15 @@ public final class ModelTest {
     }
 
     private static final class Run {
+        /** A whole text is 17 calls, and each call that is checked is followed by a look at the eight figures. */
+        static final int MOST_AT_ONCE = 17 + 9;
         final Random random;
         final int number;
         final HalfAndHalfAgain x = new HalfAndHalfAgain();
         final Model m = new Model();
         final StringBuilder told = new StringBuilder();
+        /** How many calls the object has had, of the 512 that are promised. */
+        int made = 0;
 
         Run(Random random, int number) {
             this.random = random;
@@ -380,6 +384,7 @@ public final class ModelTest {
         }
 
         void due(String call, long got, long want) {
+            made += 9;
             told.append(call).append(" = ").append(got).append('\n');
             if (got != want) {
                 wrong++;
@@ -405,7 +410,7 @@ public final class ModelTest {
         }
 
         void calls() {
-            for (int i = 0; i < 56 && wrong < 20; i++) call(random.nextInt(44));
+            while (made <= 512 - MOST_AT_ONCE && wrong < 20) call(random.nextInt(44));
         }
 
         void call(int which) {
@@ -464,6 +469,7 @@ public final class ModelTest {
 
         void wholeText() {
             String signs = new String[] {"0123456789abcdef", "000f", "0ff", "00369c", "0f0f0f0f369c7", "00000001248"}[random.nextInt(6)];
+            made += 17;
             x.wipe();
             m.text.setLength(0);
             for (int i = 0; i < 16; i++) {
