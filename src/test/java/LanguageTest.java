@@ -1,4 +1,5 @@
 import java.io.IOException;
+import java.lang.management.ManagementFactory;
 import java.lang.reflect.Constructor;
 import java.lang.reflect.Field;
 import java.lang.reflect.Method;
@@ -36,6 +37,7 @@ public final class LanguageTest {
         face();
         constants();
         nested();
+        room();
         source(Files.readString(Path.of("src/main/java/HalfAndHalfAgain.java")));
         System.out.println(wrong == 0 ? "the rules are kept" : wrong + " rules are broken");
         if (wrong != 0) System.exit(1);
@@ -88,6 +90,66 @@ public final class LanguageTest {
                 check(method.getParameterCount() <= 7, method + " has too many parameters");
             }
         }
+    }
+
+    /** All calls of a run live in one room: once both slots are used, no call makes an object. */
+    private static void room() {
+        com.sun.management.ThreadMXBean bean = (com.sun.management.ThreadMXBean) ManagementFactory.getThreadMXBean();
+        if (!bean.isThreadAllocatedMemorySupported()) return;
+        long least = Long.MAX_VALUE;
+        // What the machine makes for itself, as it gets to know the code, comes in the first rounds alone.
+        for (int round = 0; round < 5; round++) {
+            HalfAndHalfAgain x = new HalfAndHalfAgain();
+            x.keep(0);
+            x.keep(1);
+            long before = bean.getCurrentThreadAllocatedBytes();
+            for (int i = 0; i < 10; i++) everyCall(x);
+            least = Math.min(least, bean.getCurrentThreadAllocatedBytes() - before);
+        }
+        check(least < 160, "ten times every call make " + least + " bytes");
+    }
+
+    private static void everyCall(HalfAndHalfAgain x) {
+        x.wipe();
+        x.write(8, 0x6630303066666666L);
+        x.write(8, 0x6666663030663036L);
+        x.fault();
+        x.word(0);
+        x.word(1);
+        x.sign(0, 3);
+        x.figure(0);
+        x.set(0, 63, true);
+        x.size(0);
+        x.parts(0);
+        x.holes(0);
+        x.edges(0, true);
+        x.corners(0, 0);
+        x.convex(0);
+        x.turn(0, 7);
+        x.shift(1, 1, 0);
+        x.form(0);
+        x.like(0, 1);
+        x.itself(0);
+        x.both(2, 0, 0, 1);
+        x.ahead(0, 2, 0);
+        x.cut(0, 3, 4);
+        x.halves(0);
+        x.split(2, 0, 2, 3);
+        x.part(4, 1, 0);
+        x.lay(0, true);
+        x.piece(0);
+        x.places(0, 0);
+        x.place(0, 0);
+        x.ways(0);
+        x.first(0, 0);
+        x.idle(0);
+        x.lift();
+        x.grown(0);
+        x.forms(0);
+        x.grow(0, 0);
+        x.keep(0);
+        x.again(1);
+        x.count(3);
     }
 
     private static void source(String text) {
